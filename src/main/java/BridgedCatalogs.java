@@ -379,7 +379,7 @@ public final class BridgedCatalogs {
         /** In a row in ascending order: the first index, not before from, with at least limit. */
         int firstAtLeast(int limit, int from) {
             int index = from;
-            while (index < size && at(index, BEYOND_KEYS) < limit) {
+            while (index >= 0 && index < size && index < cells.length && cells[index] < limit) {
                 index++;
             }
             return index;
@@ -581,7 +581,7 @@ public final class BridgedCatalogs {
             return key;
         }
 
-        /** Becomes a node without keys and children. */
+        /** Becomes a node without keys and children, whatever an undone node has left here. */
         void begin(int newParent, int newDepth) {
             parent = newParent;
             left = NONE;

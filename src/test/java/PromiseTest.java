@@ -29,7 +29,9 @@ public final class PromiseTest {
         place();
         leastAndNearest();
         worst();
+        worstBehindAndBefore();
         worstForAnyX();
+        worstInSmallTrees();
         nodesAndNode();
         keyOfCatalog();
         baseAndBuffer();
@@ -37,6 +39,7 @@ public final class PromiseTest {
         bridge();
         count();
         undo();
+        undoneNodes();
         undoable();
         notUndoable();
         digest();
@@ -239,6 +242,8 @@ public final class PromiseTest {
         rows(x, "baseKey", 0, 15, 30);
         rows(x, "bufferKey", 0);
         entries(x, 0, 150, 300);
+        check.due(0, x, "node", 0, 6);
+        check.due(2, x, "node", 0, 4);
         x = oneBase(1);
         check.due(1, x, "remove", 0, 10);
         check.due(0, x, "node", 0, 5);
@@ -485,7 +490,61 @@ public final class PromiseTest {
         check.outOfBounds(x, "worst", -1);
     }
 
-    /** Against all x, in trees where only a few x are the worst. */
+    /** Trees where only an x behind all keys, or only x = 0, is the worst. */
+    private static void worstBehindAndBefore() {
+        BridgedCatalogs x = new BridgedCatalogs();
+        x.setSizes(1, 2);
+        x.addNode(0, LEFT);
+        x.addNode(1, LEFT);
+        x.add(0, 100);
+        x.add(1, 150);
+        x.add(2, 150);
+        check.due(1, x, "probes", 2, 100);
+        check.due(2, x, "probes", 2, 150);
+        check.due(3, x, "probes", 2, 151);
+        check.due(3, x, "worst", 2);
+        x = new BridgedCatalogs();
+        x.setSizes(1, 2);
+        x.addSeries(0, 0, 5, 2);
+        x.remove(0, 0);
+        check.due(3, x, "probes", 0, 0);
+        check.due(2, x, "probes", 0, 1);
+        check.due(3, x, "worst", 0);
+    }
+
+    private static void worstInSmallTrees() {
+        int seed = 1;
+        for (int tree = 0; tree < 60; tree++) {
+            BridgedCatalogs x = new BridgedCatalogs();
+            x.setSizes(1 + tree % 3, 2 + tree % 2);
+            x.addNode(0, LEFT);
+            x.addNode(0, RIGHT);
+            x.addNode(1, RIGHT);
+            x.addNode(2, LEFT);
+            for (int i = 0; i < 30; i++) {
+                seed = seed * 1103515245 + 12345;
+                int draw = (seed >>> 16) % 1000;
+                if (i % 5 == 4) {
+                    x.remove(draw % 5, Math.max(0, x.key(draw % 5, draw % 3)));
+                } else {
+                    x.add(draw % 5, draw / 20);
+                }
+            }
+            againstAllX(x);
+        }
+    }
+
+    private static void againstAllX(BridgedCatalogs x) {
+        for (int node = 0; node < x.nodes(); node++) {
+            int most = 0;
+            for (int number = 0; number <= 10000; number++) {
+                most = Math.max(most, x.probes(node, number));
+            }
+            check.due(most, x, "worst", node);
+        }
+    }
+
+    /** Long catalogs with some marks, and the worst x near the greatest one. */
     private static void worstForAnyX() {
         for (int shift = 0; shift < 3; shift++) {
             BridgedCatalogs x = new BridgedCatalogs();
@@ -499,13 +558,7 @@ public final class PromiseTest {
             x.remove(3, 9999);
             x.remove(1, 9000);
             x.remove(0, 9992);
-            for (int node = 0; node < 4; node++) {
-                int most = 0;
-                for (int number = 0; number <= 10000; number++) {
-                    most = Math.max(most, x.probes(node, number));
-                }
-                check.due(most, x, "worst", node);
-            }
+            againstAllX(x);
         }
     }
 
@@ -651,12 +704,47 @@ public final class PromiseTest {
         check.due(4, x, "count", 0);
     }
 
+    /** A node that was undone leaves nothing to the one that takes its number. */
+    private static void undoneNodes() {
+        BridgedCatalogs x = new BridgedCatalogs();
+        x.addNode(0, LEFT);
+        x.addNode(1, LEFT);
+        x.addNode(1, RIGHT);
+        for (int left = 2; left >= 0; left--) {
+            check.due(left, x, "undo");
+        }
+        check.due(1, x, "nodes");
+        check.due(NONE, x, "node", 0, 1);
+        check.outOfBounds(x, "node", 1, 0);
+        check.due(1, x, "addNode", 0, RIGHT);
+        check.due(NONE, x, "node", 1, 1);
+        check.due(NONE, x, "node", 1, 2);
+        check.due(0, x, "undo");
+        check.due(NONE, x, "node", 0, 2);
+        x.setSizes(3, 2);
+        x.addNode(0, LEFT);
+        x.addSeries(1, 10, 10, 4);
+        x.remove(1, 10);
+        check.due(4 - 1, x, "undo");
+        check.due(4 - 2, x, "undo");
+        check.due(4 - 3, x, "undo");
+        check.due(1, x, "addNode", 0, RIGHT);
+        int[] values = {0, NONE, NONE, 1, 0, 0, 0, 0, 0};
+        for (int what = 0; what < values.length; what++) {
+            check.due(values[what], x, "node", 1, what);
+        }
+        rows(x, "baseKey", 1);
+        rows(x, "bufferKey", 1);
+    }
+
     /** What is undone is the whole state: sizes, tree, bases, marks, buffers, lists, counts. */
     private static void undoable() {
-        String[] names = {"addNode", "add", "add", "remove", "remove", "addSeries", "addSeries",
-            "setSizes", "setSizes", "rebuild", "rebuildAll", "search", "remove", "add"};
-        int[][] arguments = {{2, LEFT}, {1, 7}, {1, 15}, {2, 20}, {2, 21}, {0, 1, 1, 24},
-            {0, 12, 30, 4}, {1, 5}, {4, 2}, {2}, {}, {2, 35}, {1, 600}, {1, 601}};
+        String[] names = {"addNode", "addNode", "addNode", "add", "add", "add", "remove", "remove",
+            "remove", "addSeries", "addSeries", "addSeries", "setSizes", "setSizes", "rebuild",
+            "rebuildAll", "search"};
+        int[][] arguments = {{2, LEFT}, {2, RIGHT}, {0, RIGHT}, {1, 7}, {1, 15}, {1, 601}, {2, 20},
+            {2, 21}, {1, 600}, {0, 1, 1, 24}, {0, 12, 30, 4}, {2, 1, 2, 4}, {1, 5}, {4, 2}, {2},
+            {}, {2, 35}};
         for (int i = 0; i < names.length; i++) {
             BridgedCatalogs x = threeNodes();
             x.add(1, 600);
@@ -666,7 +754,7 @@ public final class PromiseTest {
             // The stack is full; so it is after the call, and one shorter after undo.
             Check.answer(x, names[i], arguments[i]);
             check.due(3, x, "undo");
-            x.setSizes(4, 2);
+            check.due(42, x, "setSizes", 4, 2);
             check.same("digest after undo of " + names[i], Check.answer(x, "digest"), before);
         }
     }
