@@ -1,9 +1,14 @@
 import java.lang.reflect.InvocationTargetException;
 import java.lang.reflect.Method;
 import java.util.Arrays;
+import java.util.function.Supplier;
 
 /** Calls methods by their names, compares their answers, and counts what is wrong. */
 final class Check {
+    static final String BOUNDS = "IndexOutOfBoundsException";
+    static final String ARGUMENT = "IllegalArgumentException";
+    static final String STATE = "IllegalStateException";
+
     private final String title;
     private int right;
     private int wrong;
@@ -39,15 +44,15 @@ final class Check {
     }
 
     void outOfBounds(Object target, String name, int... arguments) {
-        thrown("IndexOutOfBoundsException", target, name, arguments);
+        thrown(BOUNDS, target, name, arguments);
     }
 
     void badArgument(Object target, String name, int... arguments) {
-        thrown("IllegalArgumentException", target, name, arguments);
+        thrown(ARGUMENT, target, name, arguments);
     }
 
     void badState(Object target, String name, int... arguments) {
-        thrown("IllegalStateException", target, name, arguments);
+        thrown(STATE, target, name, arguments);
     }
 
     /** The exception must come, and must leave the state as it was. */
@@ -56,6 +61,69 @@ final class Check {
         String call = name + Arrays.toString(arguments);
         same(call, answer(target, name, arguments), "throws.java.lang." + exception);
         same("digest after the exception of " + call, answer(target, "digest"), before);
+    }
+
+    /**
+     * The exception must come, and must leave the state as it was, and the saved states too: so the
+     * object is compared with another one that did not have the call, back to the oldest state.
+     */
+    void refused(Supplier<?> maker, String exception, String name, int... arguments) {
+        Object target = maker.get();
+        String call = name + Arrays.toString(arguments);
+        String before = state(target);
+        same(call, answer(target, name, arguments), "throws.java.lang." + exception);
+        same("state after the exception of " + call, state(target), before);
+        Object twin = maker.get();
+        for (int undone = 1; undone <= 5; undone++) {
+            String what = " after the exception of " + call + " and " + undone + " undo";
+            same("answer" + what, answer(target, "undo"), answer(twin, "undo"));
+            same("state" + what, state(target), state(twin));
+        }
+    }
+
+    /** The digest, and what it leaves out: the bridges of each last place. */
+    static String state(Object target) {
+        StringBuilder state = new StringBuilder(answer(target, "digest"));
+        int nodes = Integer.parseInt(answer(target, "nodes"));
+        for (int node = 0; node < nodes; node++) {
+            int last = Integer.parseInt(answer(target, "node", node, 8));
+            for (int to = 0; to <= 2; to++) {
+                state.append(' ').append(answer(target, "bridge", node, last, to));
+            }
+        }
+        return state.toString();
+    }
+
+    /** All that a row of the node tells by its numbers from 0 on, and NONE behind it. */
+    void rows(Object target, String name, int node, int... keys) {
+        for (int i = 0; i < keys.length; i++) {
+            due(keys[i], target, name, node, i);
+        }
+        due(-1, target, name, node, keys.length);
+    }
+
+    /** The values of node() from 0 on. */
+    void nodeValues(Object target, int node, int... values) {
+        for (int what = 0; what < values.length; what++) {
+            due(values[what], target, "node", node, what);
+        }
+    }
+
+    /** The entries of a list, each told as 10 * key + origin. */
+    void entries(Object target, int node, int... entries) {
+        due(entries.length, target, "node", node, 8);
+        for (int i = 0; i < entries.length; i++) {
+            due(entries[i] / 10, target, "entry", node, i, 0);
+            due(entries[i] % 10, target, "entry", node, i, 1);
+        }
+    }
+
+    /** The bridges to one row from all places of a list, and none behind the last place. */
+    void bridges(Object target, int node, int to, int... bridges) {
+        for (int place = 0; place < bridges.length; place++) {
+            due(bridges[place], target, "bridge", node, place, to);
+        }
+        badArgument(target, "bridge", node, bridges.length, to);
     }
 
     void same(String what, Object got, Object want) {

@@ -4,13 +4,13 @@ import java.util.Random;
 /** Long runs of calls, in range and out of it, on the class and on the model side by side. */
 public final class ModelTest {
     private static final int RUNS = 80;
-    private static final int CALLS = 512;
+    private static final int STEPS = 512;
     private static final int EXTREMES = 40;
     private static final int[] ODD = {-1, Integer.MIN_VALUE, Integer.MAX_VALUE, 10001, 15, 9};
 
     private final Check check = new Check("ModelTest");
     private final Random random;
-    private final BridgedCatalogs made = new BridgedCatalogs();
+    private final Subject made = new Subject();
     private final Model model = new Model();
     // Narrow ranges of keys make equal keys in neighbouring lists frequent.
     private final int keys;
@@ -35,15 +35,14 @@ public final class ModelTest {
 
     private void play() {
         grow();
-        for (int i = 0; i < CALLS && !differs; i++) {
+        for (int i = 1; i <= STEPS && !differs && made.changes() < Subject.MOST_CHANGES; i++) {
             step();
-            if (i % 64 == 63) {
+            if (i % 64 == 0) {
                 everything();
             }
-            if (i % 256 == 255) {
-                both("digest");
-            }
         }
+        everything();
+        both("digest");
     }
 
     /** Starts with a chain, a full tree or a tree of any shape. */
@@ -59,7 +58,7 @@ public final class ModelTest {
     }
 
     private void step() {
-        int node = number(made.nodes() + (random.nextInt(12) == 0 ? 1 : 0));
+        int node = number(made.value("nodes") + (random.nextInt(12) == 0 ? 1 : 0));
         int key = key();
         switch (random.nextInt(24)) {
             case 0 -> both("addNode", node, odd(1 + random.nextInt(2)));
@@ -123,10 +122,10 @@ public final class ModelTest {
 
     /** A key that the catalog of the node holds, if there is any. */
     private int held(int node) {
-        if (node < 0 || node >= made.nodes() || made.node(node, 4) == 0) {
+        if (node < 0 || node >= made.value("nodes") || made.value("node", node, 4) == 0) {
             return key();
         }
-        return made.key(node, random.nextInt(made.node(node, 4)));
+        return made.value("key", node, random.nextInt(made.value("node", node, 4)));
     }
 
     /** Compares all that can be read but the digest, which is slow in the model. */
@@ -135,7 +134,7 @@ public final class ModelTest {
             both("count", what);
         }
         both("nodes");
-        for (int node = 0; node < made.nodes(); node++) {
+        for (int node = 0; node < made.value("nodes"); node++) {
             for (int what = 0; what <= 8; what++) {
                 both("node", node, what);
             }
@@ -144,7 +143,7 @@ public final class ModelTest {
                 both("baseKey", node, index);
                 both("bufferKey", node, index);
             }
-            for (int index = 0; index <= made.node(node, 8); index++) {
+            for (int index = 0; index <= made.value("node", node, 8); index++) {
                 both("entry", node, index, 0);
                 both("entry", node, index, 1);
                 for (int to = 0; to <= 2; to++) {
@@ -155,7 +154,7 @@ public final class ModelTest {
     }
 
     private void both(String name, int... arguments) {
-        String got = Check.answer(made, name, arguments);
+        String got = made.answer(name, arguments);
         String want = Check.answer(model, name, arguments);
         if (!got.equals(want)) {
             differs = true;

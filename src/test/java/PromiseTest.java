@@ -1,3 +1,5 @@
+import java.util.function.Supplier;
+
 /** Each promise of the document: ordinary inputs, its edges and wrong inputs, told by hand. */
 public final class PromiseTest {
     private static final int NONE = BridgedCatalogs.NONE;
@@ -47,60 +49,15 @@ public final class PromiseTest {
         check.end();
     }
 
-    /** Root, its left child 1 and the right child 2 of this one, as in the first shared run. */
-    private static BridgedCatalogs threeNodes() {
-        BridgedCatalogs x = new BridgedCatalogs();
-        x.addNode(0, LEFT);
-        x.addNode(1, RIGHT);
-        x.addSeries(2, 10, 10, 8);
-        x.addSeries(1, 15, 20, 4);
-        x.addSeries(0, 12, 30, 4);
-        return x;
-    }
-
-    /** One node with this many keys 10, 20, .. in its base, and nothing in its buffer. */
-    private static BridgedCatalogs oneBase(int many) {
-        BridgedCatalogs x = new BridgedCatalogs();
-        x.addSeries(0, 10, 10, many);
-        x.rebuild(0);
-        return x;
-    }
-
-    private static void rows(BridgedCatalogs x, String name, int node, int... keys) {
-        for (int i = 0; i < keys.length; i++) {
-            check.due(keys[i], x, name, node, i);
-        }
-        check.due(NONE, x, name, node, keys.length);
-    }
-
-    /** The entries of a list, each told as 10 * key + origin. */
-    private static void entries(BridgedCatalogs x, int node, int... entries) {
-        check.due(entries.length, x, "node", node, 8);
-        for (int i = 0; i < entries.length; i++) {
-            check.due(entries[i] / 10, x, "entry", node, i, 0);
-            check.due(entries[i] % 10, x, "entry", node, i, 1);
-        }
-    }
-
-    private static void bridges(BridgedCatalogs x, int node, int to, int... bridges) {
-        for (int place = 0; place < bridges.length; place++) {
-            check.due(bridges[place], x, "bridge", node, place, to);
-        }
-        check.badArgument(x, "bridge", node, bridges.length, to);
-    }
-
     private static void newObject() {
         BridgedCatalogs x = new BridgedCatalogs();
         check.due(1, x, "nodes");
-        int[] values = {NONE, NONE, NONE, 0, 0, 0, 0, 0, 0};
-        for (int what = 0; what < values.length; what++) {
-            check.due(values[what], x, "node", 0, what);
-        }
+        check.nodeValues(x, 0, NONE, NONE, NONE, 0, 0, 0, 0, 0, 0);
         for (int what = 0; what <= 6; what++) {
             check.due(0, x, "count", what);
         }
         for (int to = OWN; to <= RIGHT; to++) {
-            bridges(x, 0, to, 0);
+            check.bridges(x, 0, to, 0);
         }
         check.badState(x, "undo");
         check.due(42, x, "setSizes", 4, 2);
@@ -134,7 +91,7 @@ public final class PromiseTest {
     }
 
     private static void addNodeBuildsLists() {
-        BridgedCatalogs x = threeNodes();
+        BridgedCatalogs x = Samples.threeNodes();
         x.add(1, 500);
         x.remove(0, 42);
         x.setSizes(4, 3);
@@ -144,13 +101,13 @@ public final class PromiseTest {
         check.due(17, x, "count", 2);
         check.due(4, x, "count", 4);
         // Node 1 takes each third entry of node 2 now, and the root each third of node 1.
-        entries(x, 3);
-        entries(x, 1, 150, 302, 350, 550, 602, 750);
-        entries(x, 0, 120, 351, 420, 720, 751, 1020);
+        check.entries(x, 3);
+        check.entries(x, 1, 150, 302, 350, 550, 602, 750);
+        check.entries(x, 0, 120, 351, 420, 720, 751, 1020);
         check.due(53, x, "count", 3);
-        rows(x, "bufferKey", 1, 500);
-        rows(x, "baseKey", 0, 12, 10042, 72, 102);
-        entries(x, 2, 100, 200, 300, 400, 500, 600, 700, 800);
+        check.rows(x, "bufferKey", 1, 500);
+        check.rows(x, "baseKey", 0, 12, 10042, 72, 102);
+        check.entries(x, 2, 100, 200, 300, 400, 500, 600, 700, 800);
     }
 
     private static void add() {
@@ -158,13 +115,13 @@ public final class PromiseTest {
         check.due(1, x, "add", 0, 9999);
         check.due(1, x, "add", 0, 0);
         check.due(0, x, "add", 0, 9999);
-        rows(x, "bufferKey", 0, 9999, 0);
+        check.rows(x, "bufferKey", 0, 9999, 0);
         check.outOfBounds(x, "add", 1, 5);
         check.outOfBounds(x, "add", -1, -1);
         check.badArgument(x, "add", 0, -1);
         check.badArgument(x, "add", 0, 10000);
         check.badArgument(x, "add", 0, HIGH);
-        x = oneBase(24);
+        x = Samples.oneBase(24);
         check.badState(x, "add", 0, 5);
         check.due(0, x, "add", 0, 240);
         check.badArgument(x, "add", 0, -5);
@@ -185,15 +142,15 @@ public final class PromiseTest {
             check.due(1, x, "add", 0, key);
         }
         check.due(7, x, "node", 0, 7);
-        entries(x, 0);
+        check.entries(x, 0);
         x.setSizes(3, 2);
         check.due(7, x, "node", 0, 7);
         check.due(0, x, "add", 0, 7);
         check.due(0, x, "count", 4);
         check.due(1, x, "add", 0, 9);
         check.due(1, x, "count", 4);
-        rows(x, "baseKey", 0, 1, 2, 3, 4, 5, 6, 7, 9);
-        rows(x, "bufferKey", 0);
+        check.rows(x, "baseKey", 0, 1, 2, 3, 4, 5, 6, 7, 9);
+        check.rows(x, "bufferKey", 0);
         x.setSizes(8, 2);
         x.remove(0, 4);
         x.add(0, 20);
@@ -202,23 +159,23 @@ public final class PromiseTest {
         check.due(1, x, "add", 0, 4);
         check.due(1, x, "node", 0, 7);
         check.due(1, x, "add", 0, 21);
-        rows(x, "baseKey", 0, 1, 2, 3, 4, 5, 6, 7, 9, 20, 21);
+        check.rows(x, "baseKey", 0, 1, 2, 3, 4, 5, 6, 7, 9, 20, 21);
         check.due(1, x, "add", 0, 22);
         check.due(3, x, "count", 4);
     }
 
     private static void remove() {
-        BridgedCatalogs x = oneBase(5);
+        BridgedCatalogs x = Samples.oneBase(5);
         x.add(0, 7);
         x.add(0, 6);
         x.add(0, 8);
         check.due(1, x, "remove", 0, 6);
-        rows(x, "bufferKey", 0, 7, 8);
+        check.rows(x, "bufferKey", 0, 7, 8);
         check.due(0, x, "remove", 0, 6);
         check.due(1, x, "remove", 0, 30);
         check.due(0, x, "remove", 0, 30);
         check.due(0, x, "remove", 0, 9999);
-        rows(x, "baseKey", 0, 10, 20, 10030, 40, 50);
+        check.rows(x, "baseKey", 0, 10, 20, 10030, 40, 50);
         check.due(6, x, "node", 0, 4);
         // The list keeps the marked key.
         check.due(5, x, "node", 0, 8);
@@ -230,7 +187,7 @@ public final class PromiseTest {
     }
 
     private static void removeRebuilds() {
-        BridgedCatalogs x = oneBase(4);
+        BridgedCatalogs x = Samples.oneBase(4);
         x.add(0, 15);
         int before = x.count(4);
         check.due(1, x, "remove", 0, 10);
@@ -239,34 +196,34 @@ public final class PromiseTest {
         check.due(before, x, "count", 4);
         check.due(1, x, "remove", 0, 20);
         check.due(before + 1, x, "count", 4);
-        rows(x, "baseKey", 0, 15, 30);
-        rows(x, "bufferKey", 0);
-        entries(x, 0, 150, 300);
+        check.rows(x, "baseKey", 0, 15, 30);
+        check.rows(x, "bufferKey", 0);
+        check.entries(x, 0, 150, 300);
         check.due(0, x, "node", 0, 6);
         check.due(2, x, "node", 0, 4);
-        x = oneBase(1);
+        x = Samples.oneBase(1);
         check.due(1, x, "remove", 0, 10);
         check.due(0, x, "node", 0, 5);
-        x = oneBase(5);
+        x = Samples.oneBase(5);
         x.remove(0, 10);
         x.remove(0, 20);
         check.due(2, x, "node", 0, 6);
         x.remove(0, 30);
-        rows(x, "baseKey", 0, 40, 50);
+        check.rows(x, "baseKey", 0, 40, 50);
     }
 
     private static void addSeries() {
         BridgedCatalogs x = new BridgedCatalogs();
         check.due(3, x, "addSeries", 0, 5, 10, 3);
-        rows(x, "bufferKey", 0, 5, 15, 25);
+        check.rows(x, "bufferKey", 0, 5, 15, 25);
         // 15 and 25 are passed over, and are two of the four keys of the series.
         check.due(2, x, "addSeries", 0, 15, 10, 4);
-        rows(x, "baseKey", 0, 5, 15, 25, 35);
-        rows(x, "bufferKey", 0, 45);
+        check.rows(x, "baseKey", 0, 5, 15, 25, 35);
+        check.rows(x, "bufferKey", 0, 45);
         check.due(1, x, "count", 4);
         x.remove(0, 15);
         check.due(1, x, "addSeries", 0, 15, 999, 1);
-        rows(x, "baseKey", 0, 5, 15, 25, 35);
+        check.rows(x, "baseKey", 0, 5, 15, 25, 35);
         check.due(0, x, "addSeries", 0, 5, 10, 5);
         check.outOfBounds(x, "addSeries", 1, 5, 1, 1);
         check.outOfBounds(x, "addSeries", -1, -1, 0, 0);
@@ -280,7 +237,7 @@ public final class PromiseTest {
     private static void addSeriesEnds() {
         BridgedCatalogs x = new BridgedCatalogs();
         check.due(3, x, "addSeries", 0, 8001, 999, 24);
-        rows(x, "key", 0, 8001, 9000, 9999);
+        check.rows(x, "key", 0, 8001, 9000, 9999);
         check.due(1, x, "addSeries", 0, 9998, 1, 24);
         check.due(20, x, "addSeries", 0, 1, 1, 24);
         check.due(24, x, "node", 0, 4);
@@ -305,36 +262,36 @@ public final class PromiseTest {
         x.add(0, 5);
         check.due(1, x, "count", 4);
         // For what is done from now on: no list is built by it.
-        x = threeNodes();
+        x = Samples.threeNodes();
         x.setSizes(1, 5);
         check.due(14, x, "count", 2);
         check.due(8, x, "node", 1, 8);
     }
 
     private static void rebuild() {
-        BridgedCatalogs x = threeNodes();
+        BridgedCatalogs x = Samples.threeNodes();
         x.add(2, 5);
         x.remove(2, 80);
         x.add(1, 3);
         x.remove(0, 42);
         check.due(24, x, "rebuild", 2);
-        rows(x, "baseKey", 2, 5, 10, 20, 30, 40, 50, 60, 70);
-        rows(x, "bufferKey", 2);
-        entries(x, 1, 102, 150, 302, 350, 502, 550, 702, 750);
-        rows(x, "bufferKey", 1, 3);
-        rows(x, "baseKey", 0, 12, 10042, 72, 102);
+        check.rows(x, "baseKey", 2, 5, 10, 20, 30, 40, 50, 60, 70);
+        check.rows(x, "bufferKey", 2);
+        check.entries(x, 1, 102, 150, 302, 350, 502, 550, 702, 750);
+        check.rows(x, "bufferKey", 1, 3);
+        check.rows(x, "baseKey", 0, 12, 10042, 72, 102);
         check.due(5, x, "count", 4);
         check.due(17, x, "count", 2);
         check.due(17, x, "rebuild", 1);
         check.due(7, x, "rebuild", 0);
-        entries(x, 0, 101, 120, 301, 501, 701, 720, 1020);
+        check.entries(x, 0, 101, 120, 301, 501, 701, 720, 1020);
         check.due(0, new BridgedCatalogs(), "rebuild", 0);
         check.outOfBounds(x, "rebuild", 3);
         check.outOfBounds(x, "rebuild", -1);
     }
 
     private static void rebuildAll() {
-        BridgedCatalogs x = threeNodes();
+        BridgedCatalogs x = Samples.threeNodes();
         x.add(2, 5);
         x.add(1, 3);
         x.remove(0, 42);
@@ -344,8 +301,8 @@ public final class PromiseTest {
         check.due(4 + 3, x, "count", 4);
         // 9 + 8 + 8 for node 2, 9 + 8 for node 1, 7 for the root.
         check.due(41 + 25 + 17 + 7, x, "count", 3);
-        entries(x, 1, 30, 102, 150, 302, 350, 502, 550, 702, 750);
-        entries(x, 0, 101, 120, 301, 501, 701, 720, 1020);
+        check.entries(x, 1, 30, 102, 150, 302, 350, 502, 550, 702, 750);
+        check.entries(x, 0, 101, 120, 301, 501, 701, 720, 1020);
         check.due(0, new BridgedCatalogs(), "rebuildAll");
     }
 
@@ -357,17 +314,17 @@ public final class PromiseTest {
         for (int node = 2; node >= 0; node--) {
             x.addSeries(node, 10, 10, 4);
         }
-        entries(x, 0, 100, 200, 201, 202, 300, 400, 401, 402);
-        bridges(x, 0, OWN, 0, 1, 1, 1, 2, 3, 3, 3, 4);
-        bridges(x, 0, LEFT, 0, 1, 1, 1, 2, 3, 3, 3, 4);
-        bridges(x, 0, RIGHT, 0, 1, 1, 1, 2, 3, 3, 3, 4);
+        check.entries(x, 0, 100, 200, 201, 202, 300, 400, 401, 402);
+        check.bridges(x, 0, OWN, 0, 1, 1, 1, 2, 3, 3, 3, 4);
+        check.bridges(x, 0, LEFT, 0, 1, 1, 1, 2, 3, 3, 3, 4);
+        check.bridges(x, 0, RIGHT, 0, 1, 1, 1, 2, 3, 3, 3, 4);
         check.due(1, x, "place", 0, 20);
         check.due(1, x, "place", 2, 20);
         check.due(20, x, "search", 2, 20);
     }
 
     private static void search() {
-        BridgedCatalogs x = threeNodes();
+        BridgedCatalogs x = Samples.threeNodes();
         check.due(40, x, "search", 2, 35);
         check.due(1, x, "count", 0);
         check.due(6, x, "count", 1);
@@ -391,7 +348,7 @@ public final class PromiseTest {
     }
 
     private static void probes() {
-        BridgedCatalogs x = threeNodes();
+        BridgedCatalogs x = Samples.threeNodes();
         // Root: 4 by halving 8 entries; each further node: 1 that ends it at once.
         check.due(6, x, "probes", 2, 35);
         // Root: 4; node 1 starts at place 0, without a probe; node 2 goes back from 1 to 0.
@@ -417,7 +374,7 @@ public final class PromiseTest {
     }
 
     private static void plainProbes() {
-        BridgedCatalogs x = threeNodes();
+        BridgedCatalogs x = Samples.threeNodes();
         check.due(9, x, "plainProbes", 2, 35);
         // Halving 4 keys: 3 below the first two, 2 behind; halving 8 keys: 4, or 3 behind.
         check.due(3, x, "plainProbes", 0, 0);
@@ -435,7 +392,7 @@ public final class PromiseTest {
     }
 
     private static void place() {
-        BridgedCatalogs x = threeNodes();
+        BridgedCatalogs x = Samples.threeNodes();
         check.due(2, x, "place", 0, 35);
         check.due(2, x, "place", 1, 35);
         check.due(3, x, "place", 2, 35);
@@ -449,7 +406,7 @@ public final class PromiseTest {
     }
 
     private static void leastAndNearest() {
-        BridgedCatalogs x = threeNodes();
+        BridgedCatalogs x = Samples.threeNodes();
         check.due(35, x, "leastOnPath", 2, 35);
         check.due(1, x, "nearestOnPath", 2, 35);
         check.due(42, x, "leastOnPath", 0, 35);
@@ -479,7 +436,7 @@ public final class PromiseTest {
     }
 
     private static void worst() {
-        BridgedCatalogs x = threeNodes();
+        BridgedCatalogs x = Samples.threeNodes();
         check.due(4, x, "worst", 0);
         check.due(7, x, "worst", 2);
         x.add(0, 1);
@@ -490,19 +447,22 @@ public final class PromiseTest {
         check.outOfBounds(x, "worst", -1);
     }
 
-    /** Trees where only an x behind all keys, or only x = 0, is the worst. */
+    /** Trees where only an x behind all keys, also the greatest x, or only x = 0, is the worst. */
     private static void worstBehindAndBefore() {
-        BridgedCatalogs x = new BridgedCatalogs();
-        x.setSizes(1, 2);
-        x.addNode(0, LEFT);
-        x.addNode(1, LEFT);
-        x.add(0, 100);
-        x.add(1, 150);
-        x.add(2, 150);
-        check.due(1, x, "probes", 2, 100);
-        check.due(2, x, "probes", 2, 150);
-        check.due(3, x, "probes", 2, 151);
-        check.due(3, x, "worst", 2);
+        BridgedCatalogs x;
+        for (int last : new int[] {150, 9999}) {
+            x = new BridgedCatalogs();
+            x.setSizes(1, 2);
+            x.addNode(0, LEFT);
+            x.addNode(1, LEFT);
+            x.add(0, last - 50);
+            x.add(1, last);
+            x.add(2, last);
+            check.due(1, x, "probes", 2, last - 50);
+            check.due(2, x, "probes", 2, last);
+            check.due(3, x, "probes", 2, last + 1);
+            check.due(3, x, "worst", 2);
+        }
         x = new BridgedCatalogs();
         x.setSizes(1, 2);
         x.addSeries(0, 0, 5, 2);
@@ -513,65 +473,79 @@ public final class PromiseTest {
     }
 
     private static void worstInSmallTrees() {
-        int seed = 1;
         for (int tree = 0; tree < 60; tree++) {
-            BridgedCatalogs x = new BridgedCatalogs();
-            x.setSizes(1 + tree % 3, 2 + tree % 2);
-            x.addNode(0, LEFT);
-            x.addNode(0, RIGHT);
-            x.addNode(1, RIGHT);
-            x.addNode(2, LEFT);
-            for (int i = 0; i < 30; i++) {
-                seed = seed * 1103515245 + 12345;
-                int draw = (seed >>> 16) % 1000;
-                if (i % 5 == 4) {
-                    x.remove(draw % 5, Math.max(0, x.key(draw % 5, draw % 3)));
-                } else {
-                    x.add(draw % 5, draw / 20);
-                }
-            }
-            againstAllX(x);
+            int number = tree;
+            worstIsOfAllX(() -> smallTree(number));
         }
     }
 
-    private static void againstAllX(BridgedCatalogs x) {
-        for (int node = 0; node < x.nodes(); node++) {
-            int most = 0;
-            for (int number = 0; number <= 10000; number++) {
-                most = Math.max(most, x.probes(node, number));
+    private static BridgedCatalogs smallTree(int number) {
+        BridgedCatalogs x = new BridgedCatalogs();
+        x.setSizes(1 + number % 3, 2 + number % 2);
+        x.addNode(0, LEFT);
+        x.addNode(0, RIGHT);
+        x.addNode(1, RIGHT);
+        x.addNode(2, LEFT);
+        x.addNode(1, LEFT);
+        x.addNode(2, RIGHT);
+        int seed = 1 + number;
+        for (int i = 0; i < 60; i++) {
+            seed = seed * 1103515245 + 12345;
+            int draw = (seed >>> 16) % 1000;
+            if (i % 5 == 4) {
+                x.remove(draw % 7, Math.max(0, x.key(draw % 7, draw % 3)));
+            } else {
+                x.add(draw % 7, draw / 7);
             }
-            check.due(most, x, "worst", node);
         }
+        return x;
     }
 
     /** Long catalogs with some marks, and the worst x near the greatest one. */
     private static void worstForAnyX() {
         for (int shift = 0; shift < 3; shift++) {
-            BridgedCatalogs x = new BridgedCatalogs();
-            x.addNode(0, RIGHT);
-            x.addNode(0, LEFT);
-            x.addNode(1, LEFT);
-            x.addSeries(3, 9976 + shift, 1, 24);
-            x.addSeries(2, 0, 999, 24);
-            x.addSeries(1, 9000, 333, 24);
-            x.addSeries(0, 9990 - shift, 1, 9);
-            x.remove(3, 9999);
-            x.remove(1, 9000);
-            x.remove(0, 9992);
-            againstAllX(x);
+            int moved = shift;
+            worstIsOfAllX(() -> longCatalogs(moved));
+        }
+    }
+
+    private static BridgedCatalogs longCatalogs(int shift) {
+        BridgedCatalogs x = new BridgedCatalogs();
+        x.addNode(0, RIGHT);
+        x.addNode(0, LEFT);
+        x.addNode(1, LEFT);
+        x.addSeries(3, 9976 + shift, 1, 24);
+        x.addSeries(2, 0, 999, 24);
+        x.addSeries(1, 9000, 333, 24);
+        x.addSeries(0, 9990 - shift, 1, 9);
+        x.remove(3, 9999);
+        x.remove(1, 9000);
+        x.remove(0, 9992);
+        return x;
+    }
+
+    /** A new object for each 400 of the x, as nothing is promised about more than 512 calls. */
+    private static void worstIsOfAllX(Supplier<BridgedCatalogs> maker) {
+        int nodes = maker.get().nodes();
+        for (int node = 0; node < nodes; node++) {
+            int most = 0;
+            for (int from = 0; from <= 10000; from += 400) {
+                BridgedCatalogs x = maker.get();
+                for (int number = from; number < from + 400 && number <= 10000; number++) {
+                    most = Math.max(most, x.probes(node, number));
+                }
+            }
+            check.due(most, maker.get(), "worst", node);
         }
     }
 
     private static void nodesAndNode() {
-        BridgedCatalogs x = threeNodes();
+        BridgedCatalogs x = Samples.threeNodes();
         x.add(1, 500);
         x.remove(1, 15);
         x.remove(1, 35);
         check.due(3, x, "nodes");
-        int[] values = {0, NONE, 2, 1, 3, 4, 2, 1, 8};
-        for (int what = 0; what < values.length; what++) {
-            check.due(values[what], x, "node", 1, what);
-        }
+        check.nodeValues(x, 1, 0, NONE, 2, 1, 3, 4, 2, 1, 8);
         check.due(1, x, "node", 0, 1);
         check.due(NONE, x, "node", 0, 2);
         check.outOfBounds(x, "node", 3, 0);
@@ -582,13 +556,13 @@ public final class PromiseTest {
     }
 
     private static void keyOfCatalog() {
-        BridgedCatalogs x = oneBase(5);
+        BridgedCatalogs x = Samples.oneBase(5);
         x.add(0, 35);
         x.add(0, 0);
         x.add(0, 9999);
         x.remove(0, 10);
         x.remove(0, 50);
-        rows(x, "key", 0, 0, 20, 30, 35, 40, 9999);
+        check.rows(x, "key", 0, 0, 20, 30, 35, 40, 9999);
         check.due(NONE, x, "key", 0, HIGH);
         check.outOfBounds(x, "key", 1, -1);
         check.outOfBounds(x, "key", -1, 0);
@@ -600,10 +574,10 @@ public final class PromiseTest {
         BridgedCatalogs x = new BridgedCatalogs();
         x.addSeries(0, 0, 9, 4);
         x.remove(0, 0);
-        rows(x, "baseKey", 0, 10000, 9, 18, 27);
+        check.rows(x, "baseKey", 0, 10000, 9, 18, 27);
         x.add(0, 5);
         x.add(0, 3);
-        rows(x, "bufferKey", 0, 5, 3);
+        check.rows(x, "bufferKey", 0, 5, 3);
         for (String name : new String[] {"baseKey", "bufferKey"}) {
             check.due(NONE, x, name, 0, HIGH);
             check.outOfBounds(x, name, 1, -1);
@@ -614,10 +588,10 @@ public final class PromiseTest {
     }
 
     private static void entry() {
-        BridgedCatalogs x = threeNodes();
-        entries(x, 0, 120, 201, 401, 420, 601, 720, 801, 1020);
-        entries(x, 1, 150, 202, 350, 402, 550, 602, 750, 802);
-        entries(x, 2, 100, 200, 300, 400, 500, 600, 700, 800);
+        BridgedCatalogs x = Samples.threeNodes();
+        check.entries(x, 0, 120, 201, 401, 420, 601, 720, 801, 1020);
+        check.entries(x, 1, 150, 202, 350, 402, 550, 602, 750, 802);
+        check.entries(x, 2, 100, 200, 300, 400, 500, 600, 700, 800);
         check.due(NONE, x, "entry", 0, 8, 0);
         check.due(NONE, x, "entry", 0, HIGH, 1);
         check.outOfBounds(x, "entry", 3, -1, 0);
@@ -633,21 +607,21 @@ public final class PromiseTest {
             x.addNode(0, RIGHT);
             x.setSizes(4, step);
             x.addSeries(1, 10, 10, 8);
-            entries(x, 0, taken[step - 3]);
+            check.entries(x, 0, taken[step - 3]);
         }
     }
 
     private static void bridge() {
-        BridgedCatalogs x = threeNodes();
-        bridges(x, 0, OWN, 0, 1, 1, 1, 2, 2, 3, 3, 4);
-        bridges(x, 0, LEFT, 0, 1, 3, 4, 5, 6, 7, 8, 8);
-        bridges(x, 0, RIGHT, 0, 0, 0, 0, 0, 0, 0, 0, 0);
-        bridges(x, 1, RIGHT, 1, 1, 3, 3, 5, 5, 7, 7, 8);
-        bridges(x, 1, LEFT, 0, 0, 0, 0, 0, 0, 0, 0, 0);
+        BridgedCatalogs x = Samples.threeNodes();
+        check.bridges(x, 0, OWN, 0, 1, 1, 1, 2, 2, 3, 3, 4);
+        check.bridges(x, 0, LEFT, 0, 1, 3, 4, 5, 6, 7, 8, 8);
+        check.bridges(x, 0, RIGHT, 0, 0, 0, 0, 0, 0, 0, 0, 0);
+        check.bridges(x, 1, RIGHT, 1, 1, 3, 3, 5, 5, 7, 7, 8);
+        check.bridges(x, 1, LEFT, 0, 0, 0, 0, 0, 0, 0, 0, 0);
         // Marked keys count as keys of the base.
         x.remove(0, 12);
         x.rebuild(2);
-        bridges(x, 0, OWN, 0, 1, 1, 1, 2, 2, 3, 3, 4);
+        check.bridges(x, 0, OWN, 0, 1, 1, 1, 2, 2, 3, 3, 4);
         check.outOfBounds(x, "bridge", 3, -1, 3);
         check.outOfBounds(x, "bridge", -1, 0, 0);
         check.badArgument(x, "bridge", 0, -1, 0);
@@ -657,7 +631,7 @@ public final class PromiseTest {
     }
 
     private static void count() {
-        BridgedCatalogs x = threeNodes();
+        BridgedCatalogs x = Samples.threeNodes();
         x.search(2, 35);
         x.search(2, 81);
         x.search(0, 10000);
@@ -679,20 +653,20 @@ public final class PromiseTest {
             x.add(0, 10 * i);
         }
         check.due(3, x, "undo");
-        rows(x, "key", 0, 0, 10, 20, 30, 40);
+        check.rows(x, "key", 0, 0, 10, 20, 30, 40);
         check.due(2, x, "undo");
         check.due(0, x, "node", 0, 7);
         check.due(1, x, "undo");
-        rows(x, "bufferKey", 0, 0, 10, 20);
+        check.rows(x, "bufferKey", 0, 0, 10, 20);
         check.due(0, x, "count", 4);
         check.due(0, x, "undo");
-        rows(x, "bufferKey", 0, 0, 10);
+        check.rows(x, "bufferKey", 0, 0, 10);
         check.badState(x, "undo");
         check.due(1, x, "add", 0, 77);
         check.due(0, x, "undo");
-        rows(x, "bufferKey", 0, 0, 10);
+        check.rows(x, "bufferKey", 0, 0, 10);
         // Up and down over the end of the ring.
-        x = threeNodes();
+        x = Samples.threeNodes();
         for (int i = 0; i < 6; i++) {
             x.search(2, 10 * i);
         }
@@ -729,12 +703,9 @@ public final class PromiseTest {
         check.due(4 - 2, x, "undo");
         check.due(4 - 3, x, "undo");
         check.due(1, x, "addNode", 0, RIGHT);
-        int[] values = {0, NONE, NONE, 1, 0, 0, 0, 0, 0};
-        for (int what = 0; what < values.length; what++) {
-            check.due(values[what], x, "node", 1, what);
-        }
-        rows(x, "baseKey", 1);
-        rows(x, "bufferKey", 1);
+        check.nodeValues(x, 1, 0, NONE, NONE, 1, 0, 0, 0, 0, 0);
+        check.rows(x, "baseKey", 1);
+        check.rows(x, "bufferKey", 1);
     }
 
     /** What is undone is the whole state: sizes, tree, bases, marks, buffers, lists, counts. */
@@ -746,7 +717,7 @@ public final class PromiseTest {
             {2, 21}, {1, 600}, {0, 1, 1, 24}, {0, 12, 30, 4}, {2, 1, 2, 4}, {1, 5}, {4, 2}, {2},
             {}, {2, 35}};
         for (int i = 0; i < names.length; i++) {
-            BridgedCatalogs x = threeNodes();
+            BridgedCatalogs x = Samples.threeNodes();
             x.add(1, 600);
             x.remove(2, 80);
             x.remove(0, 102);
@@ -760,7 +731,7 @@ public final class PromiseTest {
     }
 
     private static void notUndoable() {
-        BridgedCatalogs x = threeNodes();
+        BridgedCatalogs x = Samples.threeNodes();
         x.undo();
         x.undo();
         String before = Check.answer(x, "digest");
@@ -808,17 +779,14 @@ public final class PromiseTest {
 
     /** The full tree with full catalogs: the longest lists that there are. */
     private static void fullest() {
-        BridgedCatalogs x = new BridgedCatalogs();
-        for (int i = 1; i < 15; i++) {
-            x.addNode((i - 1) / 2, i % 2 == 1 ? LEFT : RIGHT);
-        }
+        BridgedCatalogs x = Samples.fullLevels();
         for (int i = 14; i >= 0; i--) {
             check.due(24, x, "addSeries", i, i, 300, 24);
         }
         check.due(96 + 2 * 72 + 4 * 48 + 8 * 24, x, "rebuildAll");
         check.due(96, x, "node", 0, 8);
-        bridges(x, 14, OWN, 0, 1, 2, 3, 4, 5, 6, 7, 8, 9, 10, 11, 12, 13, 14, 15, 16, 17, 18, 19,
-            20, 21, 22, 23, 24);
+        check.bridges(x, 14, OWN, 0, 1, 2, 3, 4, 5, 6, 7, 8, 9, 10, 11, 12, 13, 14, 15, 16, 17, 18,
+            19, 20, 21, 22, 23, 24);
         check.due(24, x, "bridge", 0, 96, OWN);
         check.due(72, x, "bridge", 0, 96, LEFT);
         check.due(72, x, "bridge", 0, 96, RIGHT);

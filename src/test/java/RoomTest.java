@@ -3,7 +3,8 @@ import java.lang.management.ManagementFactory;
 
 /** What a run of the dearest calls makes: rows come from the constructor, and calls make none. */
 public final class RoomTest {
-    private static final int CALLS = 512;
+    // With the calls that make the tree, and those within a call's arguments, under 512.
+    private static final int ROUNDS = 400;
     private static final long MOST_BYTES_MADE = 500_000;
     private static final long MOST_BYTES_OF_CALLS = 50_000;
 
@@ -35,7 +36,7 @@ public final class RoomTest {
     }
 
     private static void play(BridgedCatalogs x) {
-        for (int i = 0; i < CALLS; i++) {
+        for (int i = 0; i < ROUNDS; i++) {
             int node = i % 15;
             switch (i % 12) {
                 case 0 -> sum += x.addSeries(node, i, 3, 24);
