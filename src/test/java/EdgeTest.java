@@ -424,12 +424,20 @@ public final class EdgeTest {
         saved(40, "search", 2, 35);
         saved(NONE, "search", 0, 0);
         saved(3, "addNode", 0, RIGHT);
+        // A full catalog, which ends a series before its first key.
+        savedIn(Samples.oneBase(24), 0, "addSeries", 0, 5, 1, 24);
+        savedIn(Samples.oneBase(24), 0, "add", 0, 240);
+        savedIn(Samples.oneBase(24), 0, "remove", 0, 5);
     }
 
     private static void saved(long want, String name, int... arguments) {
         BridgedCatalogs x = Samples.threeNodes();
         x.undo();
         x.undo();
+        savedIn(x, want, name, arguments);
+    }
+
+    private static void savedIn(BridgedCatalogs x, long want, String name, int... arguments) {
         String before = Check.state(x);
         check.due(want, x, name, arguments);
         check.due(2, x, "undo");
